@@ -190,7 +190,8 @@ public final class WholeNumbers {
         if (!isRegister(t) || !isBase(base) || !text.tellsNumber(base)) {
             return REFUSED;
         }
-        return text.tell(result, base) ? keepResult(t) : REFUSED;
+        text.tell(result, base);
+        return keepResult(t);
     }
 
     private static boolean isRegister(int i) {
@@ -550,7 +551,6 @@ public final class WholeNumbers {
                 quotient.limbs[place] = takeDigit(place);
             }
             quotient.trim(digits);
-            rest.trim(size);
             rest.shiftDown(rest, up);
         }
 
@@ -770,20 +770,16 @@ public final class WholeNumbers {
             return length > first;
         }
 
-        /** Makes number the one that the text tells; false as soon as it has too many bits. */
-        boolean tell(Whole number, int base) {
+        /** Makes number the one that the text tells, or, if that has too many bits, one that has too many as well. */
+        void tell(Whole number, int base) {
             number.takeLong(0L);
-            int digits = digitsInLimb(base);
+            int digits = Math.max(digitsInLimb(base), 1);
             int first = firstDigit();
-            for (int i = first; i < length; i += digits) {
+            for (int i = first; i < length && number.size.bitLength() <= MOST_BITS; i += digits) {
                 int end = Math.min(i + digits, length);
                 number.size.timesPlus(powerOf(base, end - i), pieceBetween(i, end, base));
-                if (number.size.bitLength() > MOST_BITS) {
-                    return false;
-                }
             }
             number.takeSign(first == 1);
-            return true;
         }
 
         private int pieceBetween(int from, int end, int base) {

@@ -190,7 +190,8 @@ public final class PromisesTest {
         loads(1, 1);
         x.shift(0, 0, 4095);
         due("2^4095 + 2^4095", x.reckon(0, 2, 0, 0), -1);
-        due("2^4095 + 2^4095 keeps t", x.bits(2), 0);
+        due("2^4095 * 2^4095", x.reckon(2, 2, 0, 0), -1);
+        due("the refused calls keep t", x.bits(2), 0);
         x.reckon(1, 3, 0, 1);
         due("2^4095 + (2^4095 - 1)", x.reckon(0, 2, 0, 3), 4096);
         due("that number", get(2), GREATEST);
@@ -270,6 +271,11 @@ public final class PromisesTest {
             {half.multiply(limb.pow(2)).add(BigInteger.valueOf(3)), TWO.pow(27).multiply(limb.pow(2)).add(ONE)},
             {limb.pow(3).subtract(ONE).multiply(limb.pow(2)), limb.pow(2).subtract(ONE)},
             {limb.pow(4).subtract(limb.pow(2)), limb.pow(2).subtract(ONE)},
+            // Here it is 2 too great at first.
+            {half.multiply(limb.pow(2)), half.multiply(limb).add(limb).subtract(ONE)},
+            {half.multiply(limb.pow(5)), half.multiply(limb).add(limb).subtract(ONE)},
+            // The rest is 0, and the lowest limb decides on the digit.
+            {TWO.pow(59).add(BigInteger.TEN).multiply(BigInteger.valueOf(77)), TWO.pow(59).add(BigInteger.TEN)},
         };
         for (BigInteger[] pair : pairs) {
             for (int signs = 0; signs < 4; signs++) {
@@ -423,6 +429,7 @@ public final class PromisesTest {
         due("that number", get(2), TWO.pow(4094).multiply(BigInteger.valueOf(-3)));
         due("shift(2, 1, 4095)", x.shift(2, 1, 4095), -1);
         due("shift(2, 2, 1)", x.shift(2, 2, 1), -1);
+        due("shift(2, 2, 4096)", x.shift(2, 2, 4096), -1);
         for (int n : new int[] {4097, -4097, Integer.MAX_VALUE, Integer.MIN_VALUE}) {
             due("shift(2, 3, " + n + ")", x.shift(2, 3, n), -1);
         }
@@ -580,6 +587,8 @@ public final class PromisesTest {
         due("low of -2^63 - 1", x.low(4), 0L);
         x.reckon(0, 4, 4, 1);
         due("low of -2^63", x.low(4), Long.MIN_VALUE);
+        put(4, TWO.pow(62).multiply(BigInteger.valueOf(-3)));
+        due("low of -3 * 2^62", x.low(4), 0L);
         x.reckon(1, 3, 3, 1);
         due("low of 2^63 - 1", x.low(3), Long.MAX_VALUE);
         x.shift(5, 1, 4000);
@@ -602,6 +611,8 @@ public final class PromisesTest {
         due("fits of -2^63 - 1", x.fits(4), false);
         x.reckon(0, 4, 4, 1);
         due("fits of -2^63", x.fits(4), true);
+        put(4, TWO.pow(62).multiply(BigInteger.valueOf(-3)));
+        due("fits of -3 * 2^62", x.fits(4), false);
         x.shift(5, 1, 64);
         due("fits of 2^64", x.fits(5), false);
         x.shift(5, 2, 1);
