@@ -15,6 +15,8 @@ public final class WholeNumbers {
     private static final int REFUSED = -1;
     private static final int NO_ORDER = 2;
 
+    private static final int INT_BITS = 32;
+    private static final int LONG_BITS = 64;
     // With 30 bits in a limb, the product of two limbs and all that is carried stay far inside a long.
     private static final int LIMB_BITS = 30;
     private static final int LIMB_MASK = (1 << LIMB_BITS) - 1;
@@ -37,7 +39,7 @@ public final class WholeNumbers {
         result = new Whole();
         second = new Whole();
         division = new LongDivision();
-        euclid = new Euclid(division);
+        euclid = new Euclid();
         text = new Text();
     }
 
@@ -91,7 +93,7 @@ public final class WholeNumbers {
         if (!areRegisters(t, a, b)) {
             return REFUSED;
         }
-        result.size.take(euclid.commonDivisor(registers[a].size, registers[b].size));
+        result.size.take(euclid.commonDivisor(registers[a].size, registers[b].size, division));
         result.takeSign(false);
         return keepResult(t);
     }
@@ -295,7 +297,7 @@ public final class WholeNumbers {
 
         /** How many bits of the highest limb stand above its highest 1. */
         int spareBits() {
-            return count == 0 ? 0 : Integer.numberOfLeadingZeros(limb(count - 1)) - (Integer.SIZE - LIMB_BITS);
+            return count == 0 ? 0 : Integer.numberOfLeadingZeros(limb(count - 1)) - (INT_BITS - LIMB_BITS);
         }
 
         /** The 30 bits from bit i upwards. */
@@ -519,8 +521,8 @@ public final class WholeNumbers {
 
         boolean isLong() {
             int length = size.bitLength();
-            boolean isLeast = negative && length == Long.SIZE && !size.anyBitBelow(Long.SIZE - 1);
-            return length < Long.SIZE || isLeast;
+            boolean isLeast = negative && length == LONG_BITS && !size.anyBitBelow(LONG_BITS - 1);
+            return length < LONG_BITS || isLeast;
         }
 
         long asLong() {
@@ -618,7 +620,6 @@ public final class WholeNumbers {
         private static final int HEAD_BITS = 2 * LIMB_BITS;
         private static final int MOST_STEPS = 2 * HEAD_BITS;
 
-        private final LongDivision division;
         private Natural greater = new Natural();
         private Natural lesser = new Natural();
         // Some steps in one: greater becomes a greater + b lesser, and lesser c greater + d lesser.
@@ -627,11 +628,7 @@ public final class WholeNumbers {
         private long c;
         private long d;
 
-        Euclid(LongDivision division) {
-            this.division = division;
-        }
-
-        Natural commonDivisor(Natural x, Natural y) {
+        Natural commonDivisor(Natural x, Natural y, LongDivision division) {
             boolean ordered = x.order(y) >= 0;
             greater.take(ordered ? x : y);
             lesser.take(ordered ? y : x);
@@ -639,13 +636,13 @@ public final class WholeNumbers {
                 if (foreseeSteps()) {
                     takeForeseenSteps();
                 } else {
-                    takeStep();
+                    takeStep(division);
                 }
             }
             return greater;
         }
 
-        private void takeStep() {
+        private void takeStep(LongDivision division) {
             division.split(greater, lesser);
             Natural free = greater;
             greater = lesser;

@@ -72,45 +72,20 @@ public final class PromisesTest {
         }
     }
 
-    /** Makes register t a number of any size, by the registers 6 and 7. */
     private void put(int t, BigInteger value) {
-        byte[] bytes = value.abs().toByteArray();
-        x.load(6, 0);
-        for (int from = 0; from < bytes.length; from += 7) {
-            int end = Math.min(from + 7, bytes.length);
-            long piece = 0;
-            for (int i = from; i < end; i++) {
-                piece = piece << 8 | bytes[i] & 255;
-            }
-            x.load(7, piece);
-            x.shift(6, 6, 8 * (end - from));
-            x.reckon(0, 6, 6, 7);
-        }
-        x.load(7, value.signum());
-        x.reckon(2, t, 6, 7);
+        Hand.put(x, t, value);
     }
 
     private BigInteger get(int t) {
-        BigInteger value = BigInteger.ZERO;
-        for (int i = (x.bits(t) + 29) / 30 - 1; i >= 0; i--) {
-            value = value.shiftLeft(30).or(BigInteger.valueOf(x.part(t, 30 * i)));
-        }
-        return x.sign(t) < 0 ? value.negate() : value;
+        return Hand.get(x, t);
     }
 
     private void type(String letters) {
-        x.clear();
-        for (int i = 0; i < letters.length(); i++) {
-            x.type(letters.charAt(i));
-        }
+        Hand.type(x, letters);
     }
 
     private String text() {
-        StringBuilder letters = new StringBuilder();
-        for (int i = 0; x.character(i) >= 0; i++) {
-            letters.append((char) x.character(i));
-        }
-        return letters.toString();
+        return Hand.text(x);
     }
 
     private void newObject() {
@@ -411,7 +386,8 @@ public final class PromisesTest {
         begin(7);
         long[][] rows = {
             {5, 0, 5}, {5, 1, 10}, {-5, 1, -10}, {-5, -1, -2}, {5, -1, 2}, {-1, -1, 0}, {1, 30, 1L << 30},
-            {1L << 30, -30, 1}, {-7, -4096, 0}, {0, 4096, 0}, {0, -4096, 0}, {3, 60, 3L << 60}, {-1, 63, Long.MIN_VALUE},
+            {1L << 30, -30, 1}, {-7, -4096, 0}, {0, 4096, 0}, {0, -4096, 0}, {3, 60, 3L << 60},
+            {-1, 63, Long.MIN_VALUE},
             {Long.MIN_VALUE, -63, -1}, {Long.MIN_VALUE, -64, 0}, {Long.MAX_VALUE, -29, Long.MAX_VALUE >> 29},
         };
         for (long[] row : rows) {
@@ -446,7 +422,8 @@ public final class PromisesTest {
         begin(8);
         long[][] rows = {
             {0, 0, 1}, {0, 1, 0}, {0, 4096, 0}, {1, 4096, 1}, {-1, 4096, 1}, {-1, 4095, -1}, {-7, 3, -343}, {-7, 0, 1},
-            {10, 18, 1000000000000000000L}, {2, 62, 1L << 62}, {-2, 63, Long.MIN_VALUE}, {Long.MIN_VALUE, 1, Long.MIN_VALUE},
+            {10, 18, 1000000000000000000L}, {2, 62, 1L << 62}, {-2, 63, Long.MIN_VALUE},
+            {Long.MIN_VALUE, 1, Long.MIN_VALUE},
         };
         for (long[] row : rows) {
             loads(row[0], 77);
@@ -706,7 +683,9 @@ public final class PromisesTest {
         x.load(0, -907);
         x.write(0, 10);
         due("text", text(), "-907");
-        int[][] rows = {{0, '-'}, {1, '9'}, {3, '7'}, {4, -1}, {-1, -1}, {Integer.MIN_VALUE, -1}, {Integer.MAX_VALUE, -1}};
+        int[][] rows = {
+            {0, '-'}, {1, '9'}, {3, '7'}, {4, -1}, {-1, -1}, {Integer.MIN_VALUE, -1}, {Integer.MAX_VALUE, -1},
+        };
         for (int[] row : rows) {
             due("character(" + row[0] + ")", x.character(row[0]), row[1]);
         }
@@ -743,7 +722,9 @@ public final class PromisesTest {
     }
 
     private void readRefused() {
-        String[] wrong = {"", "-", "--1", "1-", "+1", " 1", "1 ", "g", "1g", "G", "/", ":", "@", "`", "\0", "1.0", "0x1"};
+        String[] wrong = {
+            "", "-", "--1", "1-", "+1", " 1", "1 ", "g", "1g", "G", "/", ":", "@", "`", "\0", "1.0", "0x1",
+        };
         for (String letters : wrong) {
             begin(20);
             x.load(1, 77);
