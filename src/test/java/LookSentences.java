@@ -193,14 +193,15 @@ final class LookSentences extends Sentences {
         due("low of 2^63 - 1", x.low(2), Long.MAX_VALUE);
     }
 
-    /** Registers 2 to 7: 2^63, -2^63 - 1, 2^64, -2^64, 2^64 + 5 and -2^4095. */
+    /** Registers 2 to 7: 2^63, -2^63 - 1, 2^64, -2^63 - 2^62, 2^64 + 5 and -2^4095. */
     private static WholeNumbers beyondLong() {
         WholeNumbers x = with(1, -1);
         x.shift(2, 0, 63);
         x.shift(3, 1, 63);
         x.reckon(1, 3, 3, 0);
         x.shift(4, 0, 64);
-        x.shift(5, 1, 64);
+        x.load(5, -3);
+        x.shift(5, 5, 62);
         x.load(7, 5);
         x.reckon(0, 6, 4, 7);
         x.shift(7, 1, 4095);

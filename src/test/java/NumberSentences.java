@@ -213,13 +213,10 @@ final class NumberSentences extends Sentences {
         becomes("gcd of -12 and itself", 12, 0, with(-12), x -> x.gcd(0, 0, 0));
         becomes("gcd of the least long and itself", TWO.pow(63), 1, with(Long.MIN_VALUE), x -> x.gcd(1, 0, 0));
         becomes("gcd of greatest and -greatest", GREATEST, 2, busy(), x -> x.gcd(2, 0, 7));
-        due("a negative number keeps its sign", Hand.get(gcdOfMinusTwelve(), 0), BigInteger.valueOf(-12));
-    }
-
-    private static WholeNumbers gcdOfMinusTwelve() {
-        WholeNumbers x = with(-12, 18);
-        x.gcd(2, 0, 1);
-        return x;
+        WholeNumbers y = with(-12, 18);
+        y.reckon(0, 3, 0, 0);
+        becomes("gcd of -12 and 18 behind a sum below 0", 6, 2, y, x -> x.gcd(2, 0, 1));
+        due("-12 behind it", y.low(0), -12L);
     }
 
     private void commonDivisorOfZeros() {
@@ -250,6 +247,9 @@ final class NumberSentences extends Sentences {
         }
         becomes("root of the greatest long", 3037000499L, 0, with(Long.MAX_VALUE), x -> x.root(0, 0));
         BigInteger greatestRoot = TWO.pow(2048).subtract(ONE);
+        WholeNumbers behind = with(-5, 9);
+        behind.reckon(0, 2, 0, 0);
+        becomes("root of 9 behind a sum below 0", 3, 2, behind, x -> x.root(2, 1));
         becomes("root of greatest", greatestRoot, 2, busy(), x -> x.root(2, 0));
         becomes("root of 2^2048", TWO.pow(1024), 2, busy(), x -> x.root(2, 5));
         for (int step = -1; step <= 0; step++) {
@@ -296,6 +296,9 @@ final class NumberSentences extends Sentences {
         becomes("0 times 2^4096", 0, 1, with(0, 77), x -> x.shift(1, 0, 4096));
         unchanged("1 times 2^4096", -1, x -> x.shift(6, 1, 4096));
         unchanged("-7 times 2^4094", -1, x -> x.shift(6, 4, 4094));
+        unchanged("2^2048 times 2^2048", -1, x -> x.shift(6, 5, 2048));
+        unchanged("2^2048 times 2^4096", -1, x -> x.shift(6, 5, 4096));
+        unchanged("-greatest times 2^4096", -1, x -> x.shift(6, 7, 4096));
     }
 
     private void shiftedDown() {

@@ -188,6 +188,8 @@ final class TermSentences extends Sentences {
         sentence(TERMS, "so is one whose result would have more than 4096 bits.");
         becomes("2^2048 * 2^2047", TWO.pow(4095), 2, powers(2048, 2047), x -> x.reckon(2, 2, 0, 1));
         unchanged("2^2048 * 2^2048", -1, () -> powers(2048, 2048), x -> x.reckon(2, 2, 0, 1));
+        unchanged("2^4095 * 2^4095", -1, () -> powers(4095, 4095), x -> x.reckon(2, 2, 0, 1));
+        unchanged("2^4095 * 2", -1, () -> powers(4095, 1), x -> x.reckon(2, 2, 0, 1));
         unchanged("(2^2049 - 1) * (2^2048 - 1)", -1, () -> ones(2049, 2048), x -> x.reckon(2, 2, 0, 1));
         unchanged("(2^4096 - 1) * 2", -1, TermSentences::greatestAndTwo, x -> x.reckon(2, 2, 0, 1));
         unchanged("(2^241 - 1)^17", -1, () -> ones(241, 241), x -> x.power(2, 0, 17));
