@@ -546,7 +546,8 @@ public final class WholeNumbers {
             int up = y.spareBits();
             divisor.shiftUp(y, up);
             rest.shiftUp(x, up);
-            int size = rest.count;
+            // One limb is left above the dividend, so that no digit's place leaves the row.
+            int size = Math.min(rest.count, LIMBS - 1);
             rest.padTo(size + 1);
             int digits = Math.max(size - divisor.count + 1, 0);
             for (int place = digits - 1; place >= 0; place--) {

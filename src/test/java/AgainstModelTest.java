@@ -139,14 +139,6 @@ public final class AgainstModelTest {
     }
 
     private void same(String call, Supplier<Object> got, Supplier<Object> want) {
-        check.due("seed " + seed + ": " + call, answer(got), answer(want));
-    }
-
-    private static Object answer(Supplier<Object> call) {
-        try {
-            return call.get();
-        } catch (RuntimeException e) {
-            return "throws." + e.getClass().getSimpleName();
-        }
+        check.due("seed " + seed + ": " + call, Check.answer(got), Check.answer(want));
     }
 }

@@ -1,3 +1,5 @@
+import java.util.function.Supplier;
+
 /** Counts the answers of a test, prints each that is not the one that is due, and ends the program. */
 final class Check {
     private int right;
@@ -9,6 +11,15 @@ final class Check {
         } else {
             wrong++;
             System.out.println(call + " answered " + got + ", due is " + want);
+        }
+    }
+
+    /** What a call answers, or the name of the exception that it throws. */
+    static Object answer(Supplier<Object> call) {
+        try {
+            return call.get();
+        } catch (RuntimeException e) {
+            return "throws." + e.getClass().getSimpleName();
         }
     }
 

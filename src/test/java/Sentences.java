@@ -62,11 +62,7 @@ abstract class Sentences {
     }
 
     static Object answer(WholeNumbers x, Call call) {
-        try {
-            return call.on(x);
-        } catch (RuntimeException e) {
-            return "throws." + e.getClass().getSimpleName();
-        }
+        return Check.answer(() -> call.on(x));
     }
 
     /** The call gives the answer that is due, and neither a register nor the text is another one behind it. */
